@@ -110,6 +110,7 @@ public final class LanternBridge {
 
     public int least(int set) {
         if (!now.isSet(set)) return BAD;
+        refresh();
         return leastFor(set, 0);
     }
 
@@ -142,16 +143,17 @@ public final class LanternBridge {
         Walker w = now.walker(person);
         if (w == null) return NONE;
         if (w.pace == 1) return 0;
+        refresh();
         int before = leastFor(now.everybody(), 0);
         if (before == NO_WAY) return NO_WAY;
         goings.putInstead(Walker.make(w.kind, w.number, w.v, w.pace - 1, w.weight));
-        search.measureTo(now.everybody(), 0, false);
-        int after = search.measureAt(now.place());
-        stale = true;
+        int after = leastFor(now.everybody(), 0);
+        goings.putInstead(w);
         return before - after;
     }
 
     public int leave() {
+        refresh();
         int best = NO_WAY;
         int leastSoFar = 0;
         for (int i = 0; i < now.size; i++) {
@@ -206,7 +208,7 @@ public final class LanternBridge {
         if (p < 0 || p > 10 || part < 0 || part > 1) return NO;
         refresh();
         int own = goings.takenBy(person, set, OVER);
-        int others = goings.mostTaken(set & ~(1 << person), set, OVER);
+        int others = goings.takenByOthers(person, set, OVER);
         int above = p * Math.max(others, Math.max(1, own - 1)) + (10 - p) * Math.max(others, own);
         int divisor = sharedWithTen(above);
         return part == 0 ? above / divisor : 10 / divisor;
@@ -299,7 +301,6 @@ public final class LanternBridge {
 
     /** LEAST for a set, while those of stay go nowhere. */
     private int leastFor(int set, int stay) {
-        refresh();
         search.measureTo(set, stay, false);
         return search.measureAt(now.place());
     }
@@ -415,21 +416,36 @@ public final class LanternBridge {
                 people[i] = state.people[i];
                 if (i < size && people[i] instanceof Leading) leaders |= 1 << i;
             }
-            layTables();
+            layMinutes(everybody);
+            layCan();
         }
 
+        /** Puts one of another PACE in the place of one of the PEOPLE, who is the same in all else. */
         void putInstead(Walker one) {
             if (one.number < 0 || one.number >= size) return;
             people[one.number] = one;
-            layTables();
+            layMinutes(1 << one.number);
         }
 
-        private void layTables() {
-            for (int way = OVER; way <= BACK; way++) {
-                for (int set = 1; set <= everybody; set++) {
-                    minutes[way][set] = mostTaken(set, set, way);
-                    can[way][set] = isBorne(set) && !isBarred(set, way) ? 1 : 0;
+        /** Lays the MINUTES of the sets in which one of some is. */
+        private void layMinutes(int some) {
+            for (int set = 1; set <= everybody; set++) {
+                if ((set & some) == 0) continue;
+                minutes[OVER][set] = 0;
+                minutes[BACK][set] = 0;
+                for (int i = 0; i < size; i++) {
+                    if (((set >> i) & 1) == 0) continue;
+                    minutes[OVER][set] = Math.max(minutes[OVER][set], takenBy(i, set, OVER));
+                    minutes[BACK][set] = Math.max(minutes[BACK][set], takenBy(i, set, BACK));
                 }
+            }
+        }
+
+        private void layCan() {
+            for (int set = 1; set <= everybody; set++) {
+                boolean borne = isBorne(set);
+                can[OVER][set] = borne && !isBarred(set, OVER) ? 1 : 0;
+                can[BACK][set] = borne && !isBarred(set, BACK) ? 1 : 0;
             }
         }
 
@@ -464,11 +480,11 @@ public final class LanternBridge {
             return false;
         }
 
-        /** The most that one of some TAKES in the GOING of a set (0: there is none of them). */
-        int mostTaken(int some, int set, int way) {
+        /** The most that one of a set but this one TAKES in its GOING (0: nobody else goes). */
+        int takenByOthers(int number, int set, int way) {
             int most = 0;
             for (int i = 0; i < size; i++) {
-                if (((some >> i) & 1) == 1) most = Math.max(most, takenBy(i, set, way));
+                if (i != number && ((set >> i) & 1) == 1) most = Math.max(most, takenBy(i, set, way));
             }
             return most;
         }
@@ -781,10 +797,10 @@ public final class LanternBridge {
 
         /** A number of 1 or 2 digits; a digit behind a 0 is left for what follows to stumble over. */
         private int readNumber() {
-            int high = signAt(at) - '0';
+            int high = at < text.length ? text[at] - '0' : -1;
             if (high < 0 || high > 9) return -1;
             at++;
-            int low = signAt(at) - '0';
+            int low = at < text.length ? text[at] - '0' : -1;
             if (high == 0 || low < 0 || low > 9) return high;
             at++;
             return high * 10 + low;
@@ -833,8 +849,7 @@ public final class LanternBridge {
         }
 
         private int indexIn(String signs) {
-            int sign = signAt(at);
-            return sign < 0 ? -1 : signs.indexOf((char) sign);
+            return at < text.length ? signs.indexOf((char) text[at]) : -1;
         }
 
         private void addCode(int c) {
@@ -866,20 +881,22 @@ public final class LanternBridge {
             for (int i = from; i < codeEnd[clause]; i++) {
                 int c = code[i];
                 int below = stack >> 1;
-                if (c >= 0) stack = (stack << 1) | (passes(c, facts) ? 1 : 0);
-                else if (c == NOT) stack ^= 1;
-                else if (c == AND) stack = below & (stack | ~1);
-                else stack = below | (stack & 1);
+                if (c == NOT) {
+                    stack ^= 1;
+                } else if (c == AND) {
+                    stack = below & (stack | ~1);
+                } else if (c == OR) {
+                    stack = below | (stack & 1);
+                } else {
+                    int fact = c / 300;
+                    int value = fact < 0 || fact >= facts.length ? 0 : facts[fact];
+                    int sign = c / 100 % 3;
+                    int n = c % 100;
+                    boolean passes = sign == 0 ? value < n : sign == 1 ? value == n : value > n;
+                    stack = (stack << 1) | (passes ? 1 : 0);
+                }
             }
             return (stack & 1) == 1;
-        }
-
-        private static boolean passes(int test, int[] facts) {
-            int fact = test / 300;
-            if (fact < 0 || fact >= facts.length) return false;
-            int sign = test / 100 % 3;
-            int n = test % 100;
-            return sign == 0 ? facts[fact] < n : sign == 1 ? facts[fact] == n : facts[fact] > n;
         }
     }
 
