@@ -974,12 +974,10 @@ public final class LanternBridge {
             super(kind, number, v, pace, weight);
         }
 
-        @Override
         int byKind(int minutes, int others, boolean heavierGoes, int way) {
             return others == 0 ? minutes - v : minutes;
         }
 
-        @Override
         int goes(int x, int[] traced) {
             begin(11, traced);
             return super.goes(x * 3, traced);
@@ -991,12 +989,10 @@ public final class LanternBridge {
             super(kind, number, v, pace, weight);
         }
 
-        @Override
         int byKind(int minutes, int others, boolean heavierGoes, int way) {
             return heavierGoes ? minutes : minutes + v;
         }
 
-        @Override
         int waits(int x, int[] traced) {
             begin(21, traced);
             return -super.waits(x, traced);
@@ -1008,14 +1004,12 @@ public final class LanternBridge {
             super(kind, number, v, pace, weight);
         }
 
-        @Override
         int byKind(int minutes, int others, boolean heavierGoes, int way) {
             int one = 1 << number;
             int beside = (one << 1) | (one >> 1);
             return (others & beside) == 0 ? minutes + v : minutes;
         }
 
-        @Override
         int tells(int x, int[] traced) {
             begin(31, traced);
             return super.tells(x, traced) ^ 7;
@@ -1027,7 +1021,6 @@ public final class LanternBridge {
             super(kind, number, v, pace, weight);
         }
 
-        @Override
         int tells(int x, int[] traced) {
             begin(41, traced);
             return super.tells(x - 1, traced) + goes(2, traced);
@@ -1039,13 +1032,11 @@ public final class LanternBridge {
             super(kind, number, v, pace, weight);
         }
 
-        @Override
         int byKind(int minutes, int others, boolean heavierGoes, int way) {
             int alone = super.byKind(minutes, others, heavierGoes, way);
             return others == 0 ? alone : (alone + 1) / 2;
         }
 
-        @Override
         int goes(int x, int[] traced) {
             begin(51, traced);
             return super.goes(x, traced) ^ number;
@@ -1057,13 +1048,11 @@ public final class LanternBridge {
             super(kind, number, v, pace, weight);
         }
 
-        @Override
         int byKind(int minutes, int others, boolean heavierGoes, int way) {
             int over = super.byKind(minutes, others, heavierGoes, way);
             return way == BACK ? over + v : over;
         }
 
-        @Override
         int waits(int x, int[] traced) {
             begin(61, traced);
             return super.waits(x, traced) + v;

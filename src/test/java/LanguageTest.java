@@ -75,6 +75,7 @@ public final class LanguageTest {
             "new Object", "hashCode", "toString", "Exact"};
         for (String word : never) must(!Pattern.compile("\\b" + word + "\\b").matcher(bare).find(), "no " + word);
         must(!bare.contains("->") && !bare.contains("::"), "no lambda, no method reference");
+        must(!bare.contains("@"), "no annotation: LANGUAGE.md lists none");
         must(!Pattern.compile("static\\s*\\{").matcher(bare).find(), "no static block");
         must(source.chars().allMatch(c -> c == '\n' || c >= 32 && c < 127), "plain signs");
         Matcher library = Pattern.compile("\\b(Integer|Long|Math|System|Arrays)\\.(\\w+)").matcher(bare);
