@@ -31,6 +31,7 @@ public final class PromisesTest {
         feed();
         nightFaults();
         nightNumbers();
+        nightOfTen();
         nightTests();
         person();
         of();
@@ -101,6 +102,8 @@ public final class PromisesTest {
         promise = "3";
         nightDue("", -10);
         nightDue("x", -10);
+        nightDue(" p=1", -10);
+        nightDue("oil 1; p=1", -16);
         nightDue("s", -11);
         nightDue("b", -11);
         nightDue("bx", -11);
@@ -177,6 +180,20 @@ public final class PromisesTest {
         due("count(4): the tape stays", x.count(4), 5);
         due("told(2)", x.told(2), 7);
         due("count(1)", x.count(1), 5);
+    }
+
+    private static void nightOfTen() {
+        promise = "3";
+        LanternBridge x = walkers(1, 2);
+        String slow = "slow 1 p=0";
+        String text = slow;
+        for (int i = 0; i < 7; i++) text += ";" + slow;
+        due("ten clauses", night(x, text + ";oil 7;oil 8"), 0);
+        due("going(1, 0, 1): all slow that hold", x.going(1, 0, 1), 9);
+        due("going(2, 0, 1)", x.going(2, 0, 1), 2);
+        due("going(3, 1, 0)", x.going(3, 1, 0), 1);
+        due("told(2): the last one", x.told(2), 8);
+        due("least(3)", x.least(3), 9);
     }
 
     /** One of number 1, KIND 1, WEIGHT 3, and what makes that one slower by 50. */
