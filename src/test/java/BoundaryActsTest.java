@@ -184,6 +184,29 @@ public final class BoundaryActsTest {
         due("trace(7)", x.trace(7), NONE);
     }
 
+    static void p22_theTraceOfEachKind() {
+        Cases.says("the numbers of the bodies that ran in the latest act(), as they began");
+        int[][][] bodies = {
+            {{1}, {2, 1}, {3, 2, 1}},
+            {{11, 1}, {2, 11, 1}, {3, 2, 11, 1}},
+            {{1}, {21, 2, 1}, {3, 21, 2, 1}},
+            {{1}, {2, 1}, {31, 3, 2, 1}},
+            {{11, 1}, {2, 11, 1}, {41, 3, 2, 11, 1, 11, 1}},
+            {{51, 1}, {21, 2, 51, 1}, {3, 21, 2, 51, 1}},
+            {{1}, {61, 2, 1}, {31, 3, 61, 2, 1}}};
+        for (int kind = 0; kind <= 6; kind++) {
+            for (int act = 0; act < 3; act++) {
+                LanternBridge x = second(kind);
+                x.act(1, act, 5);
+                int[] want = bodies[kind][act];
+                String call = "KIND " + kind + ", act " + act + ", ";
+                due(call + "count(5)", x.count(5), want.length);
+                for (int i = 0; i < want.length; i++) due(call + "trace(" + i + ")", x.trace(i), want[i]);
+                due(call + "trace(" + want.length + ")", x.trace(want.length), NONE);
+            }
+        }
+    }
+
     static void p22_aShorterOneBehindALonger() {
         Cases.says("the bodies that ran in the latest act()");
         LanternBridge x = second(4);
@@ -405,19 +428,20 @@ public final class BoundaryActsTest {
 
     static void p25_fewerPeople() {
         Cases.says("All is as THE IMAGE: how many PEOPLE.");
-        LanternBridge x = Cases.walkers(1, 2);
+        LanternBridge x = Cases.walkers(1, 7);
         x.image();
         for (int i = 3; i < 7; i++) x.person(4, 0, i, 9);
         due("least(63)", x.least(63) > 0 ? 1 : 0, 1);
         due("undo()", x.undo(), 2);
         due("of(2, 0)", x.of(2, 0), NONE);
         due("going(4, 0, 0)", x.going(4, 0, 0), Cases.BAD);
-        due("going(3, 0, 1): nobody leads", x.going(3, 0, 1), 2);
-        due("least(3)", x.least(3), 2);
+        due("least(3)", x.least(3), 7);
         due("by(999, 1)", x.by(999, 1), 3);
         due("act(2, 0, 1)", x.act(2, GOES, 1), 0);
-        due("person(0, 0, 9, 0)", x.person(0, 0, 9, 0), 2);
-        due("of(2, 2)", x.of(2, 2), 9);
+        due("person(0, 0, 5, 0)", x.person(0, 0, 5, 0), 2);
+        due("of(2, 2)", x.of(2, 2), 5);
+        due("going(5, 0, 1)", x.going(5, 0, 1), 5);
+        due("going(6, 0, 1): nobody leads", x.going(6, 0, 1), 7);
     }
 
     static void p25_fewerNights() {

@@ -206,6 +206,16 @@ public final class BoundaryGoingsTest {
         due("going(4, 0, 1): nobody leads oneself", x.going(4, 0, 1), 2);
     }
 
+    static void p07_twoLeadingOnes() {
+        Cases.says("Then 1 less, if another one who goes is LEADING.");
+        LanternBridge x = new LanternBridge();
+        x.person(0, 0, 9, 5);
+        x.person(4, 0, 7, 5);
+        x.person(4, 0, 7, 5);
+        due("going(7, 0, 1): 1 less, not 2", x.going(7, 0, 1), 8);
+        due("going(6, 0, 1): each leads the other", x.going(6, 0, 1), 6);
+    }
+
     static void p07_slowIsAddedAheadOfTheLeastOne() {
         Cases.says("One in it TAKES: PACE, and the n of all slow whose E holds");
         LanternBridge x = one(1, 9, 2);
@@ -235,6 +245,21 @@ public final class BoundaryGoingsTest {
         due("with one of 3, less than 4", beside(2, 3).going(3, 0, 1), 8);
         due("with one of 4, just as much", beside(2, 4).going(3, 0, 1), 8);
         due("with one of 5, more than 4", beside(2, 5).going(3, 0, 1), 5);
+    }
+
+    static void p07_lameByTheWeightOfAnyOtherOne() {
+        Cases.says("if nobody of more WEIGHT than their own goes, too");
+        for (int lame = 0; lame < 6; lame++) {
+            for (int heavier = 0; heavier < 6; heavier++) {
+                if (lame == heavier) continue;
+                LanternBridge x = new LanternBridge();
+                for (int i = 0; i < 6; i++) x.person(i == lame ? 2 : 0, 3, i == lame ? 5 : 1, i == heavier ? 5 : 4);
+                String who = "LAME " + lame + ", heavier " + heavier;
+                due(who + ", both", x.going(1 << lame | 1 << heavier, 0, 1), 5);
+                due(who + ", all", x.going(63, 0, 1), 5);
+                due(who + ", all but that one", x.going(63 & ~(1 << heavier), 0, 1), 8);
+            }
+        }
     }
 
     static void p07_lameOfTheMostWeight() {
@@ -606,6 +631,42 @@ public final class BoundaryGoingsTest {
         due("first(1)", x.first(1), 3);
     }
 
+    static void p11_oneMinute() {
+        Cases.says("(-5: none, or no GOING is needed)");
+        due("first(1)", Cases.walkers(1).first(1), 1);
+    }
+
+    static void p11_aLesserSetThatCanNotBe() {
+        Cases.says("of those rows of GOINGS by which it is LEAST");
+        LanternBridge x = Cases.walkersIn("bar p=0&n=1&b=0", 5, 5);
+        due("first(1): 0 is barred alone", x.first(1), 3);
+        LanternBridge y = Cases.walkersIn("bar p=0&n=1&b=1", 5, 5, 9);
+        y.go(3);
+        due("first(4): 0 is barred alone", y.first(4), 2);
+    }
+
+    static void p11_aLesserSetOnTheOtherBank() {
+        Cases.says("all on the bank of THE LANTERN");
+        LanternBridge x = Cases.walkers(5, 5, 5);
+        x.go(2);
+        due("first(4): 0 is on the near bank", x.first(4), 2);
+    }
+
+    static void p11_aLesserSetBehindWhichThereIsNone() {
+        Cases.says("of those rows of GOINGS by which it is LEAST");
+        due("first(2): behind 0 nobody comes back", Cases.walkersIn("bar b=1", 10, 5).first(2), 2);
+    }
+
+    static void p11_slowerOneWay() {
+        Cases.says("of those rows of GOINGS by which it is LEAST");
+        LanternBridge x = Cases.walkersIn("slow 9 p=0&b=0;slow 9 p=1&b=1", 1, 2, 3);
+        due("first(4)", x.first(4), 4);
+        due("first(7): 5 and 6 are", x.first(7), 5);
+        due("least(7): 0 and 2 over, 2 back, 1 and 2 over", x.least(7), 10 + 3 + 3);
+        x.go(3);
+        due("first(4): 0 back takes 1", x.first(4), 1);
+    }
+
     static void p11_theFirstGoesBack() {
         Cases.says("goes on from how all is");
         LanternBridge x = Cases.walkers(1, 2, 5, 10);
@@ -675,6 +736,16 @@ public final class BoundaryGoingsTest {
             due("by(" + w[0] + ", 1)", x.by(w[0], 1), w[1]);
             due("by(" + w[0] + ", 0)", x.by(w[0], 0), Integer.bitCount(w[1]));
         }
+    }
+
+    static void p12_slowerOneWay() {
+        Cases.says("behind GOINGS of m MINUTES or fewer, together");
+        LanternBridge x = Cases.walkersIn("slow 3 b=1", 1, 2, 5);
+        due("by(10, 0)", x.by(10, 0), 2);
+        due("by(11, 0): 2, 4 back, 5", x.by(11, 0), 3);
+        x.go(3);
+        due("by(8, 0)", x.by(8, 0), 2);
+        due("by(9, 0): 4 back, 5", x.by(9, 0), 3);
     }
 
     static void p12_ofSeveralSetsTheLeast() {

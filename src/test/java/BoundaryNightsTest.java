@@ -235,11 +235,40 @@ public final class BoundaryNightsTest {
         Cases.says("FAULT: the place of the first byte with which no NIGHT can go on");
         for (String text : new String[] {"slow 7 (p=1)", "bar !(p=1)", "bears 7", "heavy 7", "oil 7"}) {
             for (int at = 0; at < text.length(); at++) {
-                for (char sign : new char[] {0, 127, 'x', 'P', ';'}) {
+                for (char sign : new char[] {0, 127, 'x', 'P', ';', ','}) {
                     nightDue(text.substring(0, at) + sign + text.substring(at + 1), -10 - at);
                 }
             }
         }
+    }
+
+    static void p03_wordsThatLackALetter() {
+        Cases.says("slow n E; bar E; bears n; heavy n; oil n");
+        String[] words = {"low 1 p=1", "sow 1 p=1", "slw 1 p=1", "slo 1 p=1", "ar p=1", "br p=1", "ba p=1", "ears 1", "bars 1",
+            "bers 1", "beas 1", "bear 1", "eavy 1", "havy 1", "hevy 1", "heay 1", "heav 1", "il 1", "ol 1", "oi 1"};
+        int[] places = {0, 1, 2, 3, 0, 1, 2, 0, 3, 2, 3, 4, 0, 1, 2, 3, 4, 0, 1, 2};
+        for (int i = 0; i < words.length; i++) nightDue(words[i], -10 - places[i]);
+    }
+
+    static void p03_wordsOfALetterTooMany() {
+        Cases.says("slow n E; bar E; bears n; heavy n; oil n");
+        nightDue("sloww 1 p=1", -14);
+        nightDue("barr p=1", -13);
+        nightDue("bearss 1", -15);
+        nightDue("heavyy 1", -15);
+        nightDue("oill 1", -13);
+    }
+
+    static void p03_partsOfAnotherWord() {
+        Cases.says("slow n E; bar E; bears n; heavy n; oil n");
+        nightDue("slow 1", -16);
+        nightDue("slow p=1", -15);
+        nightDue("bar 1", -14);
+        nightDue("bar 1 p=1", -14);
+        nightDue("bears p=1", -16);
+        nightDue("bears 1 p=1", -17);
+        nightDue("heavy 1 p=1", -17);
+        nightDue("oil 1 p=1", -15);
     }
 
     static void p03_theFirstOfTwoFaults() {
@@ -629,6 +658,37 @@ public final class BoundaryNightsTest {
         due("going(33, 0, 1)", x.going(33, 0, 1), 51);
     }
 
+    static void p03_bothEitherAndNot() {
+        Cases.says("E: T, or T|E. T: F, or F&T. F: !F, (E), or a TEST");
+        String yes = "n=1", no = "n=2";
+        for (int i = 0; i < 4; i++) {
+            boolean a = (i & 1) == 1, b = (i & 2) == 2;
+            String left = a ? yes : no, right = b ? yes : no;
+            edgeDue(left + "&" + right, 1, 0, a && b);
+            edgeDue(left + "|" + right, 1, 0, a || b);
+            edgeDue("!" + left + "&" + right, 1, 0, !a && b);
+            edgeDue("!" + left + "|" + right, 1, 0, !a || b);
+            edgeDue("!(" + left + "&" + right + ")", 1, 0, !(a && b));
+            edgeDue("!(" + left + "|" + right + ")", 1, 0, !(a || b));
+            edgeDue("!!" + left + "&!" + right, 1, 0, a && !b);
+        }
+    }
+
+    static void p03_bothAheadOfEither() {
+        Cases.says("E: T, or T|E. T: F, or F&T.");
+        String yes = "n=1", no = "n=2";
+        for (int i = 0; i < 8; i++) {
+            boolean a = (i & 1) == 1, b = (i & 2) == 2, c = (i & 4) == 4;
+            String x = a ? yes : no, y = b ? yes : no, z = c ? yes : no;
+            edgeDue(x + "|" + y + "&" + z, 1, 0, a || b && c);
+            edgeDue(x + "&" + y + "|" + z, 1, 0, a && b || c);
+            edgeDue("(" + x + "|" + y + ")&" + z, 1, 0, (a || b) && c);
+            edgeDue(x + "&(" + y + "|" + z + ")", 1, 0, a && (b || c));
+            edgeDue(x + "|" + y + "|" + z, 1, 0, a || b || c);
+            edgeDue(x + "&" + y + "&" + z, 1, 0, a && b && c);
+        }
+    }
+
     /** Six of PACE 1, v 0: WALKER, QUICK, TIED, WALKER, LEADING, TIRING, of WEIGHT 0, 1, 2, 4, 5, 9. */
     private static LanternBridge six(String text) {
         int[] kinds = {0, 1, 3, 0, 4, 6}, weights = {0, 1, 2, 4, 5, 9};
@@ -744,6 +804,17 @@ public final class BoundaryNightsTest {
         Cases.refused("person(0, 0, 0, 0)", Cases::busy, x -> x.person(0, 0, 0, 0), BAD);
         Cases.refused("person(0, 0, 1, -1)", Cases::busy, x -> x.person(0, 0, 1, -1), BAD);
         Cases.refused("person(0, 0, 1, 0)", Cases::busyWithSixPeople, x -> x.person(0, 0, 1, 0), FULL);
+    }
+
+    static void p04_whoComesCountsAtOnce() {
+        Cases.says("One of the PEOPLE comes: their number.");
+        LanternBridge x = Cases.walkers(4);
+        due("going(1, 0, 1)", x.going(1, 0, 1), 4);
+        due("person(0, 0, 7, 0)", x.person(0, 0, 7, 0), 1);
+        due("going(2, 0, 1)", x.going(2, 0, 1), 7);
+        due("least(3)", x.least(3), 7);
+        due("person(4, 0, 1, 0)", x.person(4, 0, 1, 0), 2);
+        due("going(6, 0, 1): led", x.going(6, 0, 1), 6);
     }
 
     static void p04_allComeOnTheNearBank() {

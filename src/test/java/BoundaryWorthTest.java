@@ -291,8 +291,12 @@ public final class BoundaryWorthTest {
         LanternBridge x = Cases.walkers(1, 2, 5, 10);
         due("rule(3, 0): as by 1", x.rule(3, 0), 17);
         LanternBridge y = Cases.walkers(1, 9, 9, 9);
-        due("rule(3, 0): as by 0", y.rule(3, 0), 29);
+        due("rule(3, 0): as by 0 and 2", y.rule(3, 0), 29);
         due("rule(1, 0)", y.rule(1, 0), 9 + 1 + 9 + 9 + 9);
+        LanternBridge w = Cases.walkers(9, 9, 9, 1);
+        due("rule(3, 0): as by 0", w.rule(3, 0), 29);
+        due("rule(1, 0)", w.rule(1, 0), 9 + 1 + 9 + 9 + 9);
+        due("rule(2, 0)", w.rule(2, 0), 45);
         LanternBridge z = Cases.walkersIn("slow 50 p=2&q=3;slow 50 p=2&q=1", 7, 8, 9, 1);
         due("rule(0, 0): 1 9, 1, 1 8, 1, 1 7", z.rule(0, 0), 59 + 1 + 8 + 1 + 7);
         due("rule(1, 0): 1 7, 1, 8 9, 7, 1 7", z.rule(1, 0), 7 + 1 + 59 + 7 + 7);
@@ -657,6 +661,9 @@ public final class BoundaryWorthTest {
         chanceDue(x, 0, 3, 5, 15, 2);
         chanceDue(x, 0, 5, 5, 8, 1);
         chanceDue(x, 0, 9, 5, 9, 1);
+        chanceDue(x, 2, 5, 5, 8, 1);
+        chanceDue(x, 3, 9, 5, 17, 2);
+        chanceDue(x, 3, 15, 10, 8, 1);
     }
 
     static void p18_overAndNotBack() {
@@ -664,6 +671,9 @@ public final class BoundaryWorthTest {
         LanternBridge x = Cases.walkersIn("slow 9 b=1;slow 2 b=0", 8);
         x.go(1);
         chanceDue(x, 0, 1, 0, 10, 1);
+        LanternBridge y = Cases.walkersIn("slow 9 b=1&p=1", 8, 8);
+        chanceDue(y, 0, 3, 10, 8, 1);
+        chanceDue(y, 1, 3, 10, 8, 1);
     }
 
     static void p18_moreThanTheBridgeBears() {
@@ -777,6 +787,7 @@ public final class BoundaryWorthTest {
         Cases.says("LOOKED at: what 0 the first one (-5), 1 MINUTES. NONE.");
         LanternBridge x = booked(Cases.walkers(1, 2), 1);
         for (int what : new int[] {-1, 2, MIN, MAX}) due("looked(" + what + ")", x.looked(what), NONE);
+        due("looked(2) of an empty BOOK", Cases.walkers(1, 2).looked(2), NONE);
     }
 
     static void p20_anEmptyBook() {
